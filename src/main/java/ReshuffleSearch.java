@@ -285,8 +285,9 @@ public final class ReshuffleSearch {
 
         static int nextRank(long yard) {
             int next = ABOVE_ALL;
-            for (int s = 0; s < MOST_SIZE; s++) {
-                next = Math.min(next, leastRank(wordOf(yard, s)));
+            for (int shift = 0; shift < MOST_SIZE * STACK_BITS; shift += BOX_BITS) {
+                int rank = (int) (yard >>> shift) & BOX_MASK;
+                next = rank != 0 && rank < next ? rank : next;
             }
             return next;
         }

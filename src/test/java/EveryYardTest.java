@@ -8,7 +8,7 @@ import java.util.Map;
 /**
  * Compares solve, move, follow, blocked, rule and count with answers that are worked out another
  * way: all yards that can come up are laid out as a graph, and moves are counted backward from its
- * ends. With the argument "all" every arrangement of every yard is compared (some minutes), else
+ * ends. With the argument "all" every arrangement of every yard is compared (half a minute), else
  * every one of the small yards and an even choice of the large ones.
  */
 public final class EveryYardTest {
@@ -305,7 +305,8 @@ public final class EveryYardTest {
         int far = graph.far[y];
         longest = Math.max(longest, far);
         if (far > 0) {
-            due(graph, yard, "solve with one too few", x.solve(graph.manner, Math.min(far - 1, 30)), far > 30 ? -2 : -1);
+            int few = Math.min(far - 1, 30);
+            due(graph, yard, "solve with one too few", x.solve(graph.manner, few), far > 30 ? -2 : -1);
             due(graph, yard, "count(3) behind -1", x.count(3), -1);
         }
         int got = x.solve(graph.manner, far < 0 ? 30 : Math.min(far, 30));

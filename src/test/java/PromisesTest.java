@@ -41,6 +41,8 @@ public final class PromisesTest {
         travel();
         at();
         count();
+        groupsComeAndGo();
+        anyArguments();
         manyCalls();
         System.out.println(wrong == 0 ? "all answers are as due" : wrong + " answers are not as due");
         if (wrong != 0) {
@@ -258,6 +260,8 @@ public final class PromisesTest {
         ReshuffleSearch x = yard(4, "d", "cee", "d");
         due("restricted", x.solve(0, 30), 4);
         due("lifts from the next group's stack alone", x.move(0, 0), 1);
+        due("unrestricted behind restricted", x.solve(1, 30), 3);
+        due("restricted behind unrestricted", x.solve(0, 30), 4);
         due("follow", x.follow(), 5);
         ReshuffleSearch free = yard(4, "d", "cee", "d");
         due("unrestricted", free.solve(1, 30), 3);
@@ -488,6 +492,77 @@ public final class PromisesTest {
         ReshuffleSearch far = yard(2, "ab", "c", "d", "");
         due("solve", far.solve(0, 30), 1);
         due("travel of one move", far.count(4), far.travel(far.move(0, 0), far.move(0, 1)));
+    }
+
+    /** Groups that were there once count no more. */
+    private static void groupsComeAndGo() {
+        ReshuffleSearch x = new ReshuffleSearch(3, 3);
+        for (int group = 1; group <= 18; group++) {
+            x.put(0, group);
+            due("one box is not blocked", x.blocked(), 0);
+            due("one box leaves", x.solve(0, 0), 0);
+            due("its group", x.off(0), group);
+        }
+        x.put(0, 18);
+        x.put(0, 20);
+        x.put(0, 19);
+        due("two are blocked", x.blocked(), 2);
+        due("two moves", x.solve(1, 30), 2);
+        due("their way", way(x), "01s 02t");
+        due("two moves of the rule", x.rule(), 2);
+        due("three leave", x.follow(), 3);
+    }
+
+    /** Whatever is called in whatever state: only what the document names is thrown, and it changes nothing. */
+    private static void anyArguments() {
+        long seed = 20261115L;
+        for (int run = 0; run < 200; run++) {
+            ReshuffleSearch x = new ReshuffleSearch(2 + run % 3, 2 + run / 3 % 3);
+            for (int call = 0; call < 400; call++) {
+                seed = seed * 6364136223846793005L + 1442695040888963407L;
+                int a = (int) (seed >>> 33) % 7 - 1;
+                int b = (int) (seed >>> 40) % 34 - 2;
+                int which = (int) (seed >>> 58) % 11;
+                String before = everything(x);
+                try {
+                    answer(x, which, a, b);
+                } catch (RuntimeException e) {
+                    boolean named = Arrays.asList(thrownBy(which)).contains(e.getClass());
+                    boolean byMachine = e.getMessage() != null && e.getMessage().startsWith("Index");
+                    due("call " + which + " with " + a + ", " + b + " threw " + e, named && !byMachine ? 1 : 0, 1);
+                    due("the object behind what threw", everything(x), before);
+                }
+            }
+        }
+    }
+
+    private static int answer(ReshuffleSearch x, int which, int a, int b) {
+        switch (which) {
+            case 0: return x.off(a);
+            case 1: return x.solve(a, b);
+            case 2: return x.move(b, a);
+            case 3: return x.follow();
+            case 4: return x.blocked();
+            case 5: return x.rule();
+            case 6: return x.travel(a, b);
+            case 7: return x.at(a, b);
+            case 8: return x.count(a);
+            default: return x.put(a, b);
+        }
+    }
+
+    private static Class<?>[] thrownBy(int which) {
+        switch (which) {
+            case 0: return new Class<?>[] {ARRAY_INDEX, NO_ELEMENT};
+            case 1: return new Class<?>[] {ARGUMENT};
+            case 2: return new Class<?>[] {INDEX};
+            case 3: return new Class<?>[] {STATE};
+            case 6:
+            case 7: return new Class<?>[] {ARRAY_INDEX};
+            case 9:
+            case 10: return new Class<?>[] {ARRAY_INDEX, ARGUMENT, STATE};
+            default: return new Class<?>[0];
+        }
     }
 
     /** An object answers the same after hundreds of calls. */
