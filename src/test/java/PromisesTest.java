@@ -3,23 +3,11 @@ import java.lang.reflect.Field;
 import java.lang.reflect.Method;
 import java.lang.reflect.Modifier;
 import java.util.Arrays;
-import java.util.NoSuchElementException;
 import java.util.TreeSet;
 
 /** The promises of the document one by one: ordinary inputs, the edges it names, wrong inputs. */
-public final class PromisesTest {
-    private static final int[] WILD = {Integer.MIN_VALUE, Integer.MIN_VALUE + 1, -100, -2, -1, 31, 32, 64, 100,
-        1 << 16, 1 << 28, 1 << 30, Integer.MAX_VALUE - 1, Integer.MAX_VALUE};
-
-    private static final Class<?> ARRAY_INDEX = ArrayIndexOutOfBoundsException.class;
-    private static final Class<?> INDEX = IndexOutOfBoundsException.class;
-    private static final Class<?> ARGUMENT = IllegalArgumentException.class;
-    private static final Class<?> STATE = IllegalStateException.class;
-    private static final Class<?> NO_ELEMENT = NoSuchElementException.class;
-
-    private static int wrong = 0;
-
-    private interface Call {
+public final class PromisesTest extends Check {
+    private interface Bare {
         int run();
     }
 
@@ -42,73 +30,11 @@ public final class PromisesTest {
         at();
         count();
         groupsComeAndGo();
-        anyArguments();
-        manyCalls();
-        System.out.println(wrong == 0 ? "all answers are as due" : wrong + " answers are not as due");
-        if (wrong != 0) {
-            System.exit(1);
-        }
+        end();
     }
 
-    private static void due(String what, long got, long want) {
-        if (got != want) {
-            wrong++;
-            System.out.println(what + " answered " + got + ", due is " + want);
-        }
-    }
-
-    private static void due(String what, String got, String want) {
-        if (!got.equals(want)) {
-            wrong++;
-            System.out.println(what + " is " + got + ", due is " + want);
-        }
-    }
-
-    /** The very class is due, and not one that the machine made: its text begins with "Index". */
-    private static void dies(String what, Class<?> want, Call call) {
-        String got;
-        try {
-            got = "the answer " + call.run();
-        } catch (RuntimeException e) {
-            boolean byMachine = e.getMessage() != null && e.getMessage().startsWith("Index");
-            got = e.getClass().getName() + (byMachine ? " by the machine" : "");
-        }
-        due(what, got, want.getName());
-    }
-
-    /** Each text is a stack from the bottom up, 'a' for group 1 to 't' for group 20. */
-    private static ReshuffleSearch yard(int tiers, String... stack) {
-        ReshuffleSearch x = new ReshuffleSearch(stack.length, tiers);
-        for (int s = 0; s < stack.length; s++) {
-            for (char c : stack[s].toCharArray()) {
-                x.put(s, c - 'a' + 1);
-            }
-        }
-        return x;
-    }
-
-    private static String shown(ReshuffleSearch x) {
-        StringBuilder text = new StringBuilder();
-        for (int s = 0; s < x.count(1); s++) {
-            for (int t = 0; t < x.count(2); t++) {
-                text.append(x.at(s, t) == 0 ? '.' : (char) ('a' + x.at(s, t) - 1));
-            }
-            text.append('/');
-        }
-        return text.toString();
-    }
-
-    /** The way that is kept: from, to and box of each move. */
-    private static String way(ReshuffleSearch x) {
-        StringBuilder text = new StringBuilder();
-        for (int i = 0; i < x.count(3); i++) {
-            text.append(x.move(i, 0)).append(x.move(i, 1)).append((char) ('a' + x.move(i, 2) - 1)).append(' ');
-        }
-        return text.toString().trim();
-    }
-
-    private static String everything(ReshuffleSearch x) {
-        return shown(x) + " " + x.count(3) + " " + x.count(4) + " " + x.count(5) + " " + way(x);
+    private static void dies(String what, Class<?> want, Bare call) {
+        due(what, answer(null, none -> call.run()), want.getName());
     }
 
     private static void face() {
@@ -511,70 +437,5 @@ public final class PromisesTest {
         due("their way", way(x), "01s 02t");
         due("two moves of the rule", x.rule(), 2);
         due("three leave", x.follow(), 3);
-    }
-
-    /** Whatever is called in whatever state: only what the document names is thrown, and it changes nothing. */
-    private static void anyArguments() {
-        long seed = 20261115L;
-        for (int run = 0; run < 200; run++) {
-            ReshuffleSearch x = new ReshuffleSearch(2 + run % 3, 2 + run / 3 % 3);
-            for (int call = 0; call < 400; call++) {
-                seed = seed * 6364136223846793005L + 1442695040888963407L;
-                int a = (int) (seed >>> 33) % 7 - 1;
-                int b = (int) (seed >>> 40) % 34 - 2;
-                int which = (int) (seed >>> 58) % 11;
-                String before = everything(x);
-                try {
-                    answer(x, which, a, b);
-                } catch (RuntimeException e) {
-                    boolean named = Arrays.asList(thrownBy(which)).contains(e.getClass());
-                    boolean byMachine = e.getMessage() != null && e.getMessage().startsWith("Index");
-                    due("call " + which + " with " + a + ", " + b + " threw " + e, named && !byMachine ? 1 : 0, 1);
-                    due("the object behind what threw", everything(x), before);
-                }
-            }
-        }
-    }
-
-    private static int answer(ReshuffleSearch x, int which, int a, int b) {
-        switch (which) {
-            case 0: return x.off(a);
-            case 1: return x.solve(a, b);
-            case 2: return x.move(b, a);
-            case 3: return x.follow();
-            case 4: return x.blocked();
-            case 5: return x.rule();
-            case 6: return x.travel(a, b);
-            case 7: return x.at(a, b);
-            case 8: return x.count(a);
-            default: return x.put(a, b);
-        }
-    }
-
-    private static Class<?>[] thrownBy(int which) {
-        switch (which) {
-            case 0: return new Class<?>[] {ARRAY_INDEX, NO_ELEMENT};
-            case 1: return new Class<?>[] {ARGUMENT};
-            case 2: return new Class<?>[] {INDEX};
-            case 3: return new Class<?>[] {STATE};
-            case 6:
-            case 7: return new Class<?>[] {ARRAY_INDEX};
-            case 9:
-            case 10: return new Class<?>[] {ARRAY_INDEX, ARGUMENT, STATE};
-            default: return new Class<?>[0];
-        }
-    }
-
-    /** An object answers the same after hundreds of calls. */
-    private static void manyCalls() {
-        ReshuffleSearch x = yard(3, "cfd", "ae", "b");
-        int first = x.solve(2, 30);
-        String before = everything(x);
-        for (int i = 0; i < 150; i++) {
-            x.solve(0, 30);
-            x.solve(1, 30);
-            due("solve once more", x.solve(2, 30), first);
-        }
-        due("the way once more", everything(x), before);
     }
 }
