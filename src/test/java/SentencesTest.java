@@ -153,6 +153,17 @@ public final class SentencesTest extends Check {
         gone.off(0);
         due("one that was taken off counts no more", gone.solve(0, 0), 0);
         due("nor for the rule", gone.rule(), 0);
+        ReshuffleSearch many = yard(3, "", "", "");
+        for (int group = 1; group <= 18; group++) {
+            many.put(0, group);
+            many.blocked();
+            many.off(0);
+        }
+        many.put(0, 18);
+        many.put(0, 20);
+        many.put(0, 19);
+        due("nor when it was one of many", many.solve(0, 30), 2);
+        due("the groups that are there", way(many), "01s 02t");
     }
 
     private static void leaveAtOnce() {
@@ -738,10 +749,10 @@ public final class SentencesTest extends Check {
         ReshuffleSearch late = solved(2, yard(3, "ab", "", ""));
         late.follow();
         refused("behind a way to marshal", STATE, late, x -> x.follow());
-        ReshuffleSearch last = solved(1, yard(2, "", "", "", "ab"));
+        ReshuffleSearch last = solved(1, yard(4, "", "", "", "abcd"));
         last.off(3);
-        last.put(3, 3);
-        refused("another box in the last stack", STATE, last, x -> x.follow());
+        last.put(3, 5);
+        refused("another box in the last place of all", STATE, last, x -> x.follow());
     }
 
     private static void howManyAreBlocked() {
