@@ -32,6 +32,18 @@ abstract class Check {
         }
     }
 
+    /** Runs all tests, even behind one that dies of a call that should have answered. */
+    static void each(Runnable... tests) {
+        for (Runnable test : tests) {
+            try {
+                test.run();
+            } catch (RuntimeException e) {
+                wrong++;
+                System.out.println("'" + sentence + "': a call threw " + e + ", an answer is due");
+            }
+        }
+    }
+
     static void end() {
         System.out.println(wrong == 0 ? "all answers are as due" : wrong + " answers are not as due");
         if (wrong != 0) {

@@ -12,24 +12,25 @@ public final class PromisesTest extends Check {
     }
 
     public static void main(String[] args) {
-        face();
-        newObject();
-        put();
-        off();
-        solve();
-        solveByManner();
-        solveFirstOfTheLeast();
-        solveDropsAndKeeps();
-        move();
-        follow();
-        followChecksTheStacks();
-        blocked();
-        rule();
-        ruleTies();
-        travel();
-        at();
-        count();
-        groupsComeAndGo();
+        each(
+                PromisesTest::face,
+                PromisesTest::newObject,
+                PromisesTest::put,
+                PromisesTest::off,
+                PromisesTest::solve,
+                PromisesTest::solveByManner,
+                PromisesTest::solveFirstOfTheLeast,
+                PromisesTest::solveDropsAndKeeps,
+                PromisesTest::move,
+                PromisesTest::follow,
+                PromisesTest::followChecksTheStacks,
+                PromisesTest::blocked,
+                PromisesTest::rule,
+                PromisesTest::ruleTies,
+                PromisesTest::travel,
+                PromisesTest::at,
+                PromisesTest::count,
+                PromisesTest::groupsComeAndGo);
         end();
     }
 
