@@ -30,7 +30,8 @@ public final class PromisesTest extends Check {
                 PromisesTest::travel,
                 PromisesTest::at,
                 PromisesTest::count,
-                PromisesTest::groupsComeAndGo);
+                PromisesTest::groupsComeAndGo,
+                PromisesTest::exampleOfTheReadme);
         end();
     }
 
@@ -438,5 +439,19 @@ public final class PromisesTest extends Check {
         due("their way", way(x), "01s 02t");
         due("two moves of the rule", x.rule(), 2);
         due("three leave", x.follow(), 3);
+    }
+
+    private static void exampleOfTheReadme() {
+        ReshuffleSearch yard = new ReshuffleSearch(3, 3);
+        due("put(0, 1)", yard.put(0, 1), 1);
+        due("put(0, 3)", yard.put(0, 3), 2);
+        due("put(0, 2)", yard.put(0, 2), 3);
+        due("put(1, 4)", yard.put(1, 4), 1);
+        due("blocked()", yard.blocked(), 2);
+        due("rule()", yard.rule(), 2);
+        due("solve(0, 30)", yard.solve(0, 30), 2);
+        due("the way", way(yard), "01b 02c");
+        due("count(4)", yard.count(4), 7);
+        due("follow()", yard.follow(), 4);
     }
 }
